@@ -445,22 +445,10 @@ public final class PromisesTest {
         DUE.same("13: count(MAX)", m.count(MAX), RowSparse.NONE);
     }
 
-    /** Column 0 down to row 24 and row 0 up to column 39 are 1: the square has 25 * 40 places. */
-    private static RowSparse hook(int cap) {
-        RowSparse m = new RowSparse(60, 60, cap);
-        for (int i = 1; i < 25; i++) {
-            m.add(i, 0, 1);
-        }
-        for (int j = 0; j < 40; j++) {
-            m.add(0, j, 1);
-        }
-        DUE.same("largest: build", m.build(), 64);
-        return m;
-    }
-
     private static void largestObject() {
-        DUE.same("largest: square beyond cap", hook(999).square(), RowSparse.NONE);
-        RowSparse m = hook(1000);
+        DUE.same("largest: square beyond cap", Given.hook(999).square(), RowSparse.NONE);
+        RowSparse m = Given.hook(1000);
+        DUE.same("largest: build", m.nnz(), 64);
         DUE.same("largest: square up to cap", m.square(), 1000);
         DUE.same("largest: colAt(999)", m.colAt(999), 39);
         DUE.same("largest: colAt(1000)", m.colAt(1000), RowSparse.NONE);

@@ -160,7 +160,8 @@ public final class EdgesTest {
     }
 
     private static void addWhenCapArePending() {
-        for (int cap : new int[] {1, 2, 7, 400}) {
+        // 509 to fill it, two that are refused and a count are all the 512 calls of an object.
+        for (int cap : new int[] {1, 2, 7, 400, 509}) {
             RowSparse m = new RowSparse(4, 4, cap);
             for (int n = 0; n < cap; n++) {
                 DUE.yes("2: add " + n + " of cap " + cap, m.add(n % 4, n % 3, 1));
